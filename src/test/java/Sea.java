@@ -1,0 +1,63 @@
+/** Short ways to make objects and fill shelves in tests. */
+final class Sea {
+    static final int BYTES = 0;
+    static final int SHORTS = 1;
+    static final int INTS = 2;
+
+    private Sea() {
+    }
+
+    /** A new object with a fleet read from a text; its shelves are empty again. */
+    static ShipsThatMeet of(String text) {
+        ShipsThatMeet sea = new ShipsThatMeet();
+        int answer = read(sea, text);
+        if (answer < 0) {
+            throw new AssertionError("the test's own text is refused: " + text + " " + answer);
+        }
+        sea.keep(7, 0, 0, 0);
+        return sea;
+    }
+
+    /** Reads a text by shelf 7. */
+    static int read(ShipsThatMeet sea, String text) {
+        text(sea, 7, text);
+        return sea.fleet(7);
+    }
+
+    static void text(ShipsThatMeet sea, int d, String text) {
+        sea.row(d, BYTES, text.length());
+        for (int i = 0; i < text.length(); i++) {
+            sea.put(d, i, text.charAt(i));
+        }
+    }
+
+    static void bytes(ShipsThatMeet sea, int d, int... values) {
+        row(sea, d, BYTES, values);
+    }
+
+    static void row(ShipsThatMeet sea, int d, int sort, int... values) {
+        sea.row(d, sort, values.length);
+        for (int i = 0; i < values.length; i++) {
+            sea.put(d, i, values[i]);
+        }
+    }
+
+    /** What element answers; -77 for IllegalArgumentException, -78 for IllegalStateException. */
+    static long element(ShipsThatMeet sea, int d, int i) {
+        try {
+            return sea.element(d, i);
+        } catch (IllegalArgumentException refused) {
+            return -77;
+        } catch (IllegalStateException refused) {
+            return -78;
+        }
+    }
+
+    static String repeated(String part, int times) {
+        StringBuilder all = new StringBuilder();
+        for (int i = 0; i < times; i++) {
+            all.append(part);
+        }
+        return all.toString();
+    }
+}
