@@ -60,7 +60,13 @@ public final class ShelvesTest {
         CHECK.due("a refused row", sea.row(7, 2, 101), -1);
         CHECK.due("leaves the one that is there", Sea.element(sea, 7, 1), 6);
         CHECK.due("a new one", sea.row(7, 2, 3), 0);
-        CHECK.due("is of zeros", Sea.element(sea, 7, 1), 0);
+        for (int i = 0; i < 3; i++) {
+            CHECK.due("is of zeros", Sea.element(sea, 7, i), 0);
+        }
+        Sea.row(sea, 7, Sea.INTS, 5, 6, 7);
+        sea.row(7, 0, 0);
+        sea.row(7, 1, 3);
+        CHECK.due("what a shorter one left out does not come back", Sea.element(sea, 7, 2), 0);
         sea.keep(7, 1, 0, 0);
         CHECK.due("in place of a captain", sea.row(7, 0, 1), 0);
         CHECK.due("who is gone", sea.pay(7), -12);
