@@ -1217,8 +1217,11 @@ public final class ShipsThatMeet {
             }
             int from = aboard[man];
             int to = wanted[man];
+            if (!canMeet(from, to) || giver(from) != man) {
+                return NONE;
+            }
             int inReturn = giver(to);
-            if (!canMeet(from, to) || giver(from) != man || !isMan(inReturn)) {
+            if (!isMan(inReturn)) {
                 return NONE;
             }
             int sinceOfMan = since[man];
