@@ -727,11 +727,14 @@ public final class ShipsThatMeet {
      * wanted. Shorter ways have been tried in vain by then; each meeting brings two men home at most.
      */
     private static int firstOfWay(Fleet mind, int[][] giversByDepth, int[] wanted, int meetings) {
-        if (meetings < 1 || meetings >= giversByDepth.length || mind.astray(wanted) > 2 * meetings) {
+        if (meetings < 1 || meetings >= giversByDepth.length) {
             return NONE;
         }
         if (meetings == 1) {
             return mind.lastMeeting(wanted);
+        }
+        if (mind.astray(wanted) > 2 * meetings) {
+            return NONE;
         }
         int[] givers = giversByDepth[meetings];
         mind.fillGivers(givers);
