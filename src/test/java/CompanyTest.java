@@ -14,7 +14,7 @@ public final class CompanyTest {
     }
 
     private static void sailed() {
-        ShipsThatMeet sea = Sea.of("s00;s00;m000;m000;m100;m100;");
+        Ships sea = Sea.of("s00;s00;m000;m000;m100;m100;");
         CHECK.due("0 at first", sea.sailed(0), 2);
         CHECK.due("3 at first", sea.sailed(3), 4);
         sea.meet(0, 1);
@@ -31,17 +31,17 @@ public final class CompanyTest {
     }
 
     private static void sailedByStatements() {
-        ShipsThatMeet sea = Sea.of("s00;s00;m000;m100;x01;m000;m100;");
+        Ships sea = Sea.of("s00;s00;m000;m100;x01;m000;m100;");
         CHECK.due("the changed ones never met", sea.sailed(0), 8);
         CHECK.due("who came behind the meeting", sea.sailed(2), 2);
         CHECK.due("never", sea.never(), 4);
-        ShipsThatMeet later = Sea.of("s00;s00;m000;m100;m000;x01;");
+        Ships later = Sea.of("s00;s00;m000;m100;m000;x01;");
         CHECK.due("who stayed has sailed with both", later.sailed(2), 3);
         CHECK.due("who went, with one", later.sailed(0), 4);
     }
 
     private static void never() {
-        ShipsThatMeet sea = Sea.of("s00;s00;m000;m000;m100;m100;");
+        Ships sea = Sea.of("s00;s00;m000;m000;m100;m100;");
         CHECK.due("at first", sea.never(), 4);
         sea.meet(0, 1);
         CHECK.due("behind one", sea.never(), 2);
@@ -54,7 +54,7 @@ public final class CompanyTest {
     }
 
     private static void mixed() {
-        CHECK.due("nobody", new ShipsThatMeet().mixed(), 0);
+        CHECK.due("nobody", new Ships().mixed(), 0);
         CHECK.due("alike", Sea.of("s00;m001;m011;m021;").mixed(), 0);
         CHECK.due("unlike", Sea.of("s00;m000;m001;m002;m003;").mixed(), 6);
         CHECK.due("two and one", Sea.of("s00;m000;m000;m001;").mixed(), 2);
@@ -63,13 +63,13 @@ public final class CompanyTest {
     }
 
     private static void mixesMost() {
-        CHECK.due("no ships", new ShipsThatMeet().mixesMost(), -4);
+        CHECK.due("no ships", new Ships().mixesMost(), -4);
         CHECK.due("one ship", Sea.of("s00;m000;").mixesMost(), -4);
         CHECK.due("one with men", Sea.of("s00;s00;s00;m200;").mixesMost(), -4);
         CHECK.due("of several the least", Sea.of("s00;s00;s00;m000;m100;m200;").mixesMost(), 1);
         CHECK.due("only one can be", Sea.of("s00;s00;s00;s00;s00;m301;m401;").mixesMost(), 34);
         // 0 and 1 are alike: only a meeting with ship 2 mixes
-        ShipsThatMeet sea = Sea.of("s00;s00;s00;m000;m000;m100;m100;m201;m201;");
+        Ships sea = Sea.of("s00;s00;s00;m000;m000;m100;m100;m201;m201;");
         CHECK.due("the one that mixes", sea.mixesMost(), 2);
         CHECK.due("nothing stays", sea.mixed(), 0);
         // now every ship gives a man of tongue 0: nothing mixes more or less
@@ -80,22 +80,22 @@ public final class CompanyTest {
 
     private static void mixesLess() {
         // the only meeting brings like to like
-        ShipsThatMeet sea = Sea.of("s60;s63;m000;m001;m100;m101;x01;");
+        Ships sea = Sea.of("s60;s63;m000;m001;m100;m101;x01;");
         CHECK.due("mixed before", sea.mixed(), 0);
-        ShipsThatMeet apart = Sea.of("s60;s63;m000;m001;m100;m101;");
+        Ships apart = Sea.of("s60;s63;m000;m001;m100;m101;");
         CHECK.due("mixed now", apart.mixed(), 2);
         CHECK.due("it is told though it is less", apart.mixesMost(), 1);
     }
 
     private static void lacks() {
-        ShipsThatMeet sea = Sea.of("s00;s00;s00;m000;m010;m120;");
+        Ships sea = Sea.of("s00;s00;s00;m000;m010;m120;");
         CHECK.due("trade 0", sea.lacks(0), 2 + 4);
         CHECK.due("trade 1", sea.lacks(1), 2 + 4);
         CHECK.due("trade 2", sea.lacks(2), 1 + 4);
         CHECK.due("trade 3", sea.lacks(3), 7);
         CHECK.due("trade 4", sea.lacks(4), -1);
         CHECK.due("trade -1", sea.lacks(-1), -1);
-        CHECK.due("no ships", new ShipsThatMeet().lacks(0), 0);
+        CHECK.due("no ships", new Ships().lacks(0), 0);
         sea.meet(0, 1);
         CHECK.due("behind a meeting", sea.lacks(0), 1 + 4);
     }

@@ -17,7 +17,7 @@ public final class FleetsTest {
     }
 
     private static void newObject() {
-        ShipsThatMeet sea = new ShipsThatMeet();
+        Ships sea = new Ships();
         for (int what = 0; what < 5; what++) {
             CHECK.due("new: count " + what, sea.count(what), 0);
             CHECK.due("new: ship 0", sea.ship(0, what), -1);
@@ -31,7 +31,7 @@ public final class FleetsTest {
     }
 
     private static void texts() {
-        ShipsThatMeet sea = new ShipsThatMeet();
+        Ships sea = new Ships();
         CHECK.due("two ships, three men", Sea.read(sea, "s12;s79;m013;m132;m103;"), 5);
         CHECK.due("ships", sea.count(0), 2);
         CHECK.due("men", sea.count(1), 3);
@@ -51,7 +51,7 @@ public final class FleetsTest {
     }
 
     private static int signsAbove() {
-        ShipsThatMeet sea = new ShipsThatMeet();
+        Ships sea = new Ships();
         Sea.bytes(sea, 0, 's' + 256, '0' + 512, '0' - 256, ';' + 65536);
         return sea.fleet(0);
     }
@@ -106,23 +106,23 @@ public final class FleetsTest {
     }
 
     private static void roomForShipsAndMen() {
-        ShipsThatMeet sea = new ShipsThatMeet();
+        Ships sea = new Ships();
         CHECK.due("five ships", Sea.read(sea, Sea.repeated("s00;", 5)), 5);
         CHECK.due("a sixth", Sea.read(sea, "s00;"), -2000);
         fault(Sea.repeated("s00;", 6), -2020);
-        ShipsThatMeet men = new ShipsThatMeet();
+        Ships men = new Ships();
         CHECK.due("twelve men", Sea.read(men, "s00;" + Sea.repeated("m000;", 12)), 13);
         CHECK.due("all aboard", men.ship(0, 3), 4095);
         CHECK.due("a thirteenth", Sea.read(men, "m000;"), -2000);
         fault("s00;" + Sea.repeated("m000;", 13), -2064);
-        ShipsThatMeet full = new ShipsThatMeet();
+        Ships full = new Ships();
         CHECK.due("a text cut in its last statement", Sea.read(full, Sea.repeated("s00;", 5) + Sea.repeated("m000;", 12) + "m10"), -1083);
         CHECK.due("24 statements", Sea.read(full, "s00;s00;m000;m100;" + Sea.repeated("x01;", 20)), 24);
         CHECK.due("20 meetings", full.count(2), 20);
     }
 
     private static void nothingComesWithAFault() {
-        ShipsThatMeet sea = Sea.of("s00;s00;m000;m100;x01;");
+        Ships sea = Sea.of("s00;s00;m000;m100;x01;");
         CHECK.due("fault at the end", Sea.read(sea, "s11;m200;x02;m300;"), -2013);
         CHECK.due("no ship came", sea.count(0), 2);
         CHECK.due("no man came", sea.count(1), 2);
@@ -134,7 +134,7 @@ public final class FleetsTest {
     }
 
     private static void refusalsOfFleet() {
-        ShipsThatMeet sea = new ShipsThatMeet();
+        Ships sea = new Ships();
         CHECK.due("fleet(-1)", sea.fleet(-1), -1);
         CHECK.due("fleet(8)", sea.fleet(8), -1);
         CHECK.due("fleet(MIN)", sea.fleet(Integer.MIN_VALUE), -1);
@@ -148,7 +148,7 @@ public final class FleetsTest {
     }
 
     private static void ship() {
-        ShipsThatMeet sea = Sea.of("s53;s62;m000;m100;m000;");
+        Ships sea = Sea.of("s53;s62;m000;m100;m000;");
         CHECK.due("kind", sea.ship(0, 0), 5);
         CHECK.due("figure", sea.ship(0, 1), 3);
         CHECK.due("how many", sea.ship(0, 2), 2);
@@ -161,14 +161,14 @@ public final class FleetsTest {
         CHECK.due("ship 2", sea.ship(2, 0), -1);
         CHECK.due("ship 5", sea.ship(5, 0), -1);
         CHECK.due("ship MAX", sea.ship(Integer.MAX_VALUE, 3), -1);
-        ShipsThatMeet empty = Sea.of("s00;");
+        Ships empty = Sea.of("s00;");
         CHECK.due("how many of nobody", empty.ship(0, 2), 0);
         CHECK.due("who of nobody", empty.ship(0, 3), 0);
         CHECK.due("gives nobody", empty.ship(0, 4), -4);
     }
 
     private static void man() {
-        ShipsThatMeet sea = Sea.of("s00;s00;m123;m031;x01;x10;");
+        Ships sea = Sea.of("s00;s00;m123;m031;x01;x10;");
         CHECK.due("ship", sea.man(0, 0), 1);
         CHECK.due("trade", sea.man(0, 1), 2);
         CHECK.due("tongue", sea.man(0, 2), 3);
@@ -181,7 +181,7 @@ public final class FleetsTest {
     }
 
     private static void commands() {
-        ShipsThatMeet sea = Sea.of("s00;s00;m000;m000;m100;");
+        Ships sea = Sea.of("s00;s00;m000;m000;m100;");
         sea.keep(3, 1, 6, 1);
         CHECK.due("told commands", sea.commands(3, 0), 0);
         CHECK.due("kind", sea.ship(0, 0), 6);
@@ -205,7 +205,7 @@ public final class FleetsTest {
     }
 
     private static void fault(String text, int due) {
-        ShipsThatMeet sea = new ShipsThatMeet();
+        Ships sea = new Ships();
         CHECK.due("fleet of \"" + text + "\"", Sea.read(sea, text), due);
         CHECK.due("ships behind \"" + text + "\"", sea.count(0), 0);
         CHECK.due("men behind \"" + text + "\"", sea.count(1), 0);

@@ -11,7 +11,7 @@ public final class ImageTest {
     }
 
     private static void imageAndRestore() {
-        ShipsThatMeet sea = Sea.of("s20;s30;m001;m010;m100;m122;x01;");
+        Ships sea = Sea.of("s20;s30;m001;m010;m100;m122;x01;");
         CHECK.due("none", sea.restore(), -3);
         CHECK.due("taken", sea.image(), 1);
         sea.meet(0, 1);
@@ -42,7 +42,7 @@ public final class ImageTest {
     }
 
     private static void imageOfNothing() {
-        ShipsThatMeet sea = new ShipsThatMeet();
+        Ships sea = new Ships();
         CHECK.due("taken", sea.image(), 0);
         Sea.read(sea, "s00;s00;m011;m111;x01;");
         CHECK.due("restored", sea.restore(), 0);
@@ -54,7 +54,7 @@ public final class ImageTest {
     }
 
     private static void shelvesStay() {
-        ShipsThatMeet sea = new ShipsThatMeet();
+        Ships sea = new Ships();
         sea.keep(0, 1, 1, 3);
         sea.image();
         sea.keep(0, 1, 1, 4);
@@ -65,7 +65,7 @@ public final class ImageTest {
     }
 
     private static void count() {
-        ShipsThatMeet sea = Sea.of("s00;s00;s00;s00;m000;m100;m000;m000;x01;x10;x01;");
+        Ships sea = Sea.of("s00;s00;s00;s00;m000;m100;m000;m000;x01;x10;x01;");
         CHECK.due("ships", sea.count(0), 4);
         CHECK.due("men", sea.count(1), 4);
         CHECK.due("meetings", sea.count(2), 3);

@@ -16,7 +16,7 @@ public final class LettersTest {
     }
 
     private static void letter() {
-        ShipsThatMeet sea = Sea.of(FOUR);
+        Ships sea = Sea.of(FOUR);
         sea.row(0, 0, 0);
         CHECK.due("now", sea.letter(0, 0), 3);
         CHECK.due("one alone", sea.letter(4, 0), 16);
@@ -37,7 +37,7 @@ public final class LettersTest {
     }
 
     private static void law() {
-        ShipsThatMeet sea = Sea.of(FOUR);
+        Ships sea = Sea.of(FOUR);
         Sea.bytes(sea, 0, 0, 1, 0, 3, 0, 1, 0, 1);
         // captains: 0 goes, (nothing), 0 against 1: 0 comes back, then 0 goes again
         CHECK.due("captains", sea.law(0, 0, 0, 0), 3);
@@ -57,7 +57,7 @@ public final class LettersTest {
     }
 
     private static void together() {
-        ShipsThatMeet sea = Sea.of(FOUR);
+        Ships sea = Sea.of(FOUR);
         Sea.bytes(sea, 0, 1, 2, 0, 3, 0, 1, 0, 1);
         CHECK.due("two meetings and no more", sea.together(0, 1, 0), 2);
         CHECK.due("in the other order", sea.together(1, 0, 0), 2);
@@ -84,14 +84,14 @@ public final class LettersTest {
 
     /** Two who part and meet again are counted till they part. */
     private static void breaks() {
-        ShipsThatMeet sea = Sea.of("s60;s60;m000;m000;m100;");
+        Ships sea = Sea.of("s60;s60;m000;m000;m100;");
         Sea.bytes(sea, 0, 0, 1, 0, 1);
         CHECK.due("0 is back behind two", sea.where(0, 0), 0);
         CHECK.due("but there was a break", sea.together(0, 1, 0), 0);
     }
 
     private static void moved() {
-        ShipsThatMeet sea = Sea.of(FOUR);
+        Ships sea = Sea.of(FOUR);
         Sea.bytes(sea, 0, 0, 1, 0, 3, 0, 1, 1, 2, 2, 1);
         // 0<->2, nothing, 1<->0, then ship 1 has 1 and 3 and ship 2 has 4: 1<->4, and 3<->1
         CHECK.due("man 0", sea.moved(0, 0), 2);
@@ -105,7 +105,7 @@ public final class LettersTest {
     }
 
     private static void seeded() {
-        ShipsThatMeet sea = Sea.of(FOUR);
+        Ships sea = Sea.of(FOUR);
         CHECK.due("man 5", sea.seeded(5, 1, 1), -1);
         CHECK.due("man -1", sea.seeded(-1, 1, 1), -1);
         CHECK.due("n 0", sea.seeded(0, 0, 1), -1);
@@ -113,18 +113,19 @@ public final class LettersTest {
         CHECK.due("n 41", sea.seeded(0, 41, 1), -1);
         int[] seeds = {0, 1, -1, 7, 12345, Integer.MIN_VALUE, Integer.MAX_VALUE, 987654321, -55};
         for (int seed : seeds) {
+            Ships told = Sea.of(FOUR);
             for (int n = 1; n <= 40; n++) {
-                ShipsThatMeet trial = Sea.of(FOUR);
+                Ships trial = Sea.of(FOUR);
                 meetBySeed(trial, n, seed);
                 for (int man = 0; man < 5; man++) {
-                    CHECK.due("seeded " + man + " " + n + " " + seed, sea.seeded(man, n, seed), trial.man(man, 0));
+                    CHECK.due("seeded " + man + " " + n + " " + seed, told.seeded(man, n, seed), trial.man(man, 0));
                 }
             }
+            CHECK.due("nothing stays", told.count(2), 0);
         }
-        CHECK.due("nothing stays", sea.count(2), 0);
     }
 
-    private static void meetBySeed(ShipsThatMeet sea, int n, int seed) {
+    private static void meetBySeed(Ships sea, int n, int seed) {
         int z = seed;
         for (int i = 0; i < n; i++) {
             z = z * 1103515245 + 12345;
@@ -136,8 +137,8 @@ public final class LettersTest {
     }
 
     private static void judge() {
-        ShipsThatMeet sea = Sea.of(FOUR);
         for (int sort = 0; sort < 3; sort++) {
+            Ships sea = Sea.of(FOUR);
             judged(sea, sort, -4);
             judged(sea, sort, -4, 0, 1, 0, 2);
             judged(sea, sort, -4, 1, 0, 2, 0);
@@ -158,11 +159,12 @@ public final class LettersTest {
             judged(sea, sort, 4, 0, 1, 0, 2, 0, 1, 1);
             judged(sea, sort, 2, 0, 1, 5, 2, 9);
         }
+        Ships sea = Sea.of(FOUR);
         judged(sea, Sea.INTS, 2, 0, 1, 256, 2);
         judged(sea, Sea.BYTES, -4, 0, 1, 256, 2);
         judged(sea, Sea.INTS, 0, 65536, 1, 0, 2);
         int[] long25 = new int[100];
-        ShipsThatMeet two = Sea.of("s00;s00;m000;m100;");
+        Ships two = Sea.of("s00;s00;m000;m100;");
         for (int i = 0; i < 25; i++) {
             long25[4 * i + 1] = 1;
             long25[4 * i + 2] = i % 2;
@@ -174,13 +176,13 @@ public final class LettersTest {
         CHECK.due("nothing stays", two.count(2), 0);
     }
 
-    private static void judged(ShipsThatMeet sea, int sort, int due, int... told) {
+    private static void judged(Ships sea, int sort, int due, int... told) {
         Sea.row(sea, 2, sort, told);
         CHECK.due("judge " + java.util.Arrays.toString(told) + " of sort " + sort, sea.judge(2), due);
     }
 
     private static void refusalsOfJudge() {
-        ShipsThatMeet sea = Sea.of(FOUR);
+        Ships sea = Sea.of(FOUR);
         CHECK.due("shelf -1", sea.judge(-1), -1);
         CHECK.due("shelf 8", sea.judge(8), -1);
         CHECK.due("nothing", sea.judge(0), -11);

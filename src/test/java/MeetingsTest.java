@@ -21,7 +21,7 @@ public final class MeetingsTest {
     }
 
     private static void meet() {
-        ShipsThatMeet sea = Sea.of("s20;s30;s00;m000;m000;m100;m100;");
+        Ships sea = Sea.of("s20;s30;s00;m000;m000;m100;m100;");
         CHECK.due("meet", sea.meet(0, 1), 102);
         CHECK.due("man 1", sea.man(1, 0), 1);
         CHECK.due("man 2", sea.man(2, 0), 0);
@@ -39,14 +39,14 @@ public final class MeetingsTest {
         CHECK.due("ship -1", sea.meet(-1, 0), -1);
         CHECK.due("ship MIN", sea.meet(0, Integer.MIN_VALUE), -1);
         CHECK.due("refused ones are no meetings", sea.count(2), 2);
-        ShipsThatMeet alone = Sea.of("s00;s00;m000;m100;");
+        Ships alone = Sea.of("s00;s00;m000;m100;");
         CHECK.due("two alone", alone.meet(0, 1), 1);
         CHECK.due("who is on 0 then", alone.ship(0, 3), 2);
         CHECK.due("two alone, back", alone.meet(1, 0), 1);
     }
 
     private static void where() {
-        ShipsThatMeet sea = Sea.of(FOUR);
+        Ships sea = Sea.of(FOUR);
         Sea.bytes(sea, 0, 0, 1, 1, 2, 2, 0);
         CHECK.due("man 0", sea.where(0, 0), 0);
         CHECK.due("man 1", sea.where(1, 0), 2);
@@ -63,7 +63,7 @@ public final class MeetingsTest {
 
     /** The row's refusals, by every call that reads one. */
     private static void rowsOfMeetings() {
-        ShipsThatMeet sea = Sea.of(FOUR);
+        Ships sea = Sea.of(FOUR);
         refused(sea, -1, -1);
         refused(sea, 8, -1);
         refused(sea, 1, -11);
@@ -94,13 +94,13 @@ public final class MeetingsTest {
         CHECK.due("twelve are well", sea.where(3, 1), 2);
     }
 
-    private static void fillWithMeetings(ShipsThatMeet sea, int size) {
+    private static void fillWithMeetings(Ships sea, int size) {
         for (int i = 0; i < size; i++) {
             sea.put(1, i, i % 2);
         }
     }
 
-    private static void refused(ShipsThatMeet sea, int d, int due) {
+    private static void refused(Ships sea, int d, int due) {
         CHECK.due("where " + d, sea.where(0, d), due);
         CHECK.due("can " + d, sea.can(0, d), due);
         CHECK.due("soonest " + d, sea.soonest(0, 0, d), due);
@@ -120,7 +120,7 @@ public final class MeetingsTest {
     }
 
     private static void can() {
-        ShipsThatMeet sea = Sea.of(FOUR);
+        Ships sea = Sea.of(FOUR);
         sea.row(0, 0, 0);
         CHECK.due("now", sea.can(0, 0), 1);
         Sea.bytes(sea, 0, 0, 1);
@@ -141,7 +141,7 @@ public final class MeetingsTest {
     }
 
     private static void soonest() {
-        ShipsThatMeet sea = Sea.of(FOUR);
+        Ships sea = Sea.of(FOUR);
         Sea.bytes(sea, 0, 0, 1, 3, 0, 1, 2, 2, 0);
         CHECK.due("now", sea.soonest(0, 0, 0), 0);
         CHECK.due("first", sea.soonest(0, 1, 0), 1);
@@ -159,7 +159,7 @@ public final class MeetingsTest {
     }
 
     private static void likely() {
-        ShipsThatMeet sea = Sea.of(FOUR);
+        Ships sea = Sea.of(FOUR);
         Sea.bytes(sea, 0, 0, 2);
         part(sea, 0, 0, 1, 2);
         part(sea, 0, 2, 1, 2);
@@ -185,13 +185,13 @@ public final class MeetingsTest {
         part(sea, 0, 1, 0, 1);
     }
 
-    private static void part(ShipsThatMeet sea, int man, int ship, long above, long below) {
+    private static void part(Ships sea, int man, int ship, long above, long below) {
         CHECK.due("likely " + man + " " + ship + " above", sea.likely(man, ship, 0, 0), above);
         CHECK.due("likely " + man + " " + ship + " below", sea.likely(man, ship, 0, 1), below);
     }
 
     private static void likelyLooksAtEight() {
-        ShipsThatMeet sea = Sea.of("s00;s00;" + Sea.repeated("m000;m100;", 6));
+        Ships sea = Sea.of("s00;s00;" + Sea.repeated("m000;m100;", 6));
         int[] meetings = new int[24];
         for (int i = 0; i < 24; i++) {
             meetings[i] = i % 2;
@@ -206,7 +206,7 @@ public final class MeetingsTest {
         meetings[23] = 0;
         Sea.bytes(sea, 0, meetings);
         CHECK.due("the whole row must be as told", sea.likely(0, 0, 0, 0), -13 - FAR);
-        ShipsThatMeet nobody = Sea.of("s00;s00;s00;m000;m000;m100;");
+        Ships nobody = Sea.of("s00;s00;s00;m000;m000;m100;");
         int[] vain = new int[18];
         for (int i = 0; i < 16; i++) {
             vain[i] = i % 2 == 0 ? 0 : 2;
@@ -217,7 +217,7 @@ public final class MeetingsTest {
     }
 
     private static void fewest() {
-        ShipsThatMeet sea = Sea.of(FOUR);
+        Ships sea = Sea.of(FOUR);
         way(sea, 0, 0, 0, -4);
         way(sea, 0, 1, 1, 1);
         way(sea, 0, 2, 1, 2);
@@ -232,7 +232,7 @@ public final class MeetingsTest {
         CHECK.due("ship -1", sea.fewest(0, -1, 1), -1);
         CHECK.due("what 2", sea.fewest(0, 0, 2), -1);
         CHECK.due("what -1", sea.fewest(0, 0, -1), -1);
-        ShipsThatMeet old = Sea.of("s30;s30;s00;s00;m000;m000;m000;m000;m000;m100;");
+        Ships old = Sea.of("s30;s30;s00;s00;m000;m000;m000;m000;m000;m100;");
         way(old, 3, 1, 4, 1);
         way(old, 4, 1, -4, -4);
         way(old, 2, 1, 3, 1);
@@ -240,24 +240,24 @@ public final class MeetingsTest {
 
     private static void firstSeries() {
         // man 1 is the second of ship 1; any meeting of it ahead brings him to the front
-        ShipsThatMeet sea = Sea.of("s30;s30;s30;m000;m100;m100;m200;");
+        Ships sea = Sea.of("s30;s30;s30;m000;m100;m100;m200;");
         way(sea, 1, 0, 1, 1);
         way(sea, 2, 0, 2, 1);
         way(sea, 2, 2, 2, 1);
         // 01 brings man 0 to ship 1, who goes ahead of man 2; 12 brings man 3, who does not
-        ShipsThatMeet told = Sea.of("s60;s61;s63;m000;m100;m100;m200;");
+        Ships told = Sea.of("s60;s61;s63;m000;m100;m100;m200;");
         way(told, 2, 0, 2, 12);
         way(told, 2, 2, 2, 12);
         way(told, 3, 0, 1, 2);
     }
 
-    private static void way(ShipsThatMeet sea, int man, int ship, int meetings, int first) {
+    private static void way(Ships sea, int man, int ship, int meetings, int first) {
         CHECK.due("fewest " + man + " " + ship, sea.fewest(man, ship, 0), meetings);
         CHECK.due("first of fewest " + man + " " + ship, sea.fewest(man, ship, 1), first);
     }
 
     private static void crews() {
-        ShipsThatMeet sea = Sea.of(FOUR);
+        Ships sea = Sea.of(FOUR);
         Sea.bytes(sea, 0, 0, 0, 1, 2, 2, 2);
         CHECK.due("as they are", sea.crews(0), 0);
         Sea.bytes(sea, 0, 1, 0, 0, 2, 2, 2);
@@ -278,19 +278,19 @@ public final class MeetingsTest {
 
     private static void threeMeetings() {
         // each meeting gives the oldest: three of 0 and 1 change all six men
-        ShipsThatMeet sea = Sea.of("s30;s30;m000;m000;m000;m100;m100;m100;");
+        Ships sea = Sea.of("s30;s30;m000;m000;m000;m100;m100;m100;");
         Sea.bytes(sea, 0, 1, 1, 1, 0, 0, 0);
         CHECK.due("three meetings", sea.crews(0), 3);
         Sea.bytes(sea, 0, 1, 1, 0, 0, 0, 1);
         CHECK.due("two meetings", sea.crews(0), 2);
         Sea.bytes(sea, 0, 0, 1, 1, 1, 0, 0);
         CHECK.due("the fourth meeting gives the first again", sea.crews(0), -4);
-        ShipsThatMeet four = Sea.of("s30;s30;m000;m000;m000;m000;m100;m100;m100;m100;");
+        Ships four = Sea.of("s30;s30;m000;m000;m000;m000;m100;m100;m100;m100;");
         Sea.bytes(four, 0, 1, 1, 1, 1, 0, 0, 0, 0);
         CHECK.due("four are too many", four.crews(0), -4);
     }
 
-    private static void refusalsOfCrews(ShipsThatMeet sea) {
+    private static void refusalsOfCrews(Ships sea) {
         CHECK.due("shelf -1", sea.crews(-1), -1);
         CHECK.due("shelf 8", sea.crews(8), -1);
         CHECK.due("nothing", sea.crews(1), -11);
@@ -306,13 +306,13 @@ public final class MeetingsTest {
         CHECK.due("no ship", sea.crews(1), -13);
         Sea.bytes(sea, 1, -1, 0, 1, 2, 2, 2);
         CHECK.due("ship -1", sea.crews(1), -13);
-        ShipsThatMeet empty = new ShipsThatMeet();
+        Ships empty = new Ships();
         empty.row(0, 0, 0);
         CHECK.due("no men, no places", empty.crews(0), 0);
     }
 
     private static void nothingStays() {
-        ShipsThatMeet sea = Sea.of("s20;s30;s00;m001;m010;m100;m123;m200;x01;x12;");
+        Ships sea = Sea.of("s20;s30;s00;m001;m010;m100;m123;m200;x01;x12;");
         Sea.bytes(sea, 0, 0, 1, 1, 2, 2, 0);
         Sea.bytes(sea, 1, 2, 2, 0, 0, 1);
         String before = picture(sea);
@@ -332,7 +332,7 @@ public final class MeetingsTest {
         CHECK.holds("all is as it was: " + before, before.equals(picture(sea)));
     }
 
-    private static String picture(ShipsThatMeet sea) {
+    private static String picture(Ships sea) {
         StringBuilder all = new StringBuilder();
         for (int what = 0; what < 5; what++) {
             all.append(sea.count(what)).append(' ');

@@ -6,8 +6,10 @@ import java.util.function.Predicate;
 /** Runs of calls drawn by a fixed seed, each answer compared with the model's. */
 public final class RandomRunsTest {
     private static final Check CHECK = new Check("RandomRunsTest");
+    /** More calls than a change and a question take. */
+    private static final int DEAREST_STEP = 170;
     private final Random random;
-    private final ShipsThatMeet sea = new ShipsThatMeet();
+    private final Ships sea = new Ships();
     private Model model = new Model();
     private Model image;
     private final int seed;
@@ -18,7 +20,7 @@ public final class RandomRunsTest {
     }
 
     public static void main(String[] args) {
-        int runs = args.length > 0 ? Integer.parseInt(args[0]) : 400;
+        int runs = args.length > 0 ? Integer.parseInt(args[0]) : 3000;
         for (int seed = 0; seed < runs; seed++) {
             new RandomRunsTest(seed).run();
         }
@@ -31,18 +33,37 @@ public final class RandomRunsTest {
 
     private void run() {
         read(someText(1 + random.nextInt(5), random.nextInt(13)));
-        for (int step = 0; step < 12; step++) {
+        for (int step = 0; step < 100 && sea.left() >= DEAREST_STEP; step++) {
             change();
-            pictures();
-            int[] row = someRow(random.nextInt(13));
-            int[] shorter = someRow(random.nextInt(4));
-            byRow(row);
-            chosen(shorter);
-            judge();
-            seeded();
-            crewsTold();
+            ask(random.nextInt(8));
         }
-        searches();
+    }
+
+    private void ask(int question) {
+        switch (question) {
+            case 0:
+                pictures();
+                break;
+            case 1:
+            case 2:
+                byRow(someRow(random.nextInt(13)));
+                break;
+            case 3:
+                chosen(someRow(random.nextInt(4)));
+                break;
+            case 4:
+                judge();
+                break;
+            case 5:
+                seeded();
+                break;
+            case 6:
+                crewsTold();
+                break;
+            default:
+                search();
+                break;
+        }
     }
 
     private String someText(int ships, int men) {
@@ -205,7 +226,6 @@ public final class RandomRunsTest {
     }
 
     private void byRow(int[] row) {
-        Sea.bytes(sea, 1, row);
         int man = random.nextInt(14) - 1;
         int other = random.nextInt(12);
         int kind = random.nextInt(8);
@@ -280,7 +300,6 @@ public final class RandomRunsTest {
     }
 
     private void chosen(int[] row) {
-        Sea.bytes(sea, 1, row);
         int man = random.nextInt(12);
         int ship = random.nextInt(5);
         if (man >= model.men.size() || ship >= model.ships.size() || !isAsTold(row)) {
@@ -376,21 +395,23 @@ public final class RandomRunsTest {
         due("crews " + java.util.Arrays.toString(told), sea.crews(2), due);
     }
 
-    private void searches() {
-        for (int man = 0; man < model.men.size(); man += 3) {
-            int wanted = man;
-            int ship = random.nextInt(model.ships.size());
-            int due = -4;
-            int first = -4;
-            for (int many = 0; many <= 4 && due == -4; many++) {
-                int[] series = model.series(many, next -> next.shipOf(wanted) == ship);
-                if (series != null) {
-                    due = many;
-                    first = many == 0 ? -4 : series[0];
-                }
-            }
-            due("fewest " + man + " " + ship, sea.fewest(man, ship, 0), due);
-            due("first of fewest " + man + " " + ship, sea.fewest(man, ship, 1), first);
+    private void search() {
+        if (model.men.isEmpty()) {
+            due("fewest", sea.fewest(0, 0, 0), -1);
+            return;
         }
+        int man = random.nextInt(model.men.size());
+        int ship = random.nextInt(model.ships.size());
+        int due = -4;
+        int first = -4;
+        for (int many = 0; many <= 4 && due == -4; many++) {
+            int[] series = model.series(many, next -> next.shipOf(man) == ship);
+            if (series != null) {
+                due = many;
+                first = many == 0 ? -4 : series[0];
+            }
+        }
+        due("fewest " + man + " " + ship, sea.fewest(man, ship, 0), due);
+        due("first of fewest " + man + " " + ship, sea.fewest(man, ship, 1), first);
     }
 }

@@ -3,19 +3,15 @@ import java.lang.management.ManagementFactory;
 /** How much room a call takes: all calls of a run live in one room of some 600,000 objects. */
 public final class RoomTest {
     private static final Check CHECK = new Check("RoomTest");
-    private static final int CALLS = 512;
+    private static final int CALLS = 150;
     private static final String[] NAMES = {
         "fleet", "where", "can", "soonest", "likely", "fewest", "crews", "mixesMost", "letter", "law",
         "together", "moved", "seeded", "judge", "image", "restore", "row", "copy", "keep", "toss",
     };
 
     public static void main(String[] args) {
-        ShipsThatMeet sea = Sea.of("s30;s30;s30;s30;s30;m001;m010;m100;m122;m211;m220;m301;m302;m413;m412;m431;m430;");
-        Sea.bytes(sea, 0, 0, 1, 1, 2, 2, 3, 3, 4, 4, 0, 0, 2, 1, 3, 2, 4, 3, 0, 4, 1, 0, 3, 4, 2);
-        Sea.bytes(sea, 1, 1, 1, 0, 2, 2, 3, 3, 4, 4, 4, 0, 0);
-        Sea.text(sea, 2, "x01;s00;");
-        sea.keep(3, 1, 7, 5);
         for (int call = 0; call < NAMES.length; call++) {
+            Ships sea = full();
             used(sea, call);
             long bytes = used(sea, call);
             // a handful of small objects a call; what toss throws is the largest of them
@@ -24,7 +20,16 @@ public final class RoomTest {
         CHECK.end();
     }
 
-    private static long used(ShipsThatMeet sea, int call) {
+    private static Ships full() {
+        Ships sea = Sea.of("s30;s30;s30;s30;s30;m001;m010;m100;m122;m211;m220;m301;m302;m413;m412;m431;m430;");
+        Sea.bytes(sea, 0, 0, 1, 1, 2, 2, 3, 3, 4, 4, 0, 0, 2, 1, 3, 2, 4, 3, 0, 4, 1, 0, 3, 4, 2);
+        Sea.bytes(sea, 1, 1, 1, 0, 2, 2, 3, 3, 4, 4, 4, 0, 0);
+        Sea.text(sea, 2, "x01;s00;");
+        sea.keep(3, 1, 7, 5);
+        return sea;
+    }
+
+    private static long used(Ships sea, int call) {
         com.sun.management.ThreadMXBean bean = (com.sun.management.ThreadMXBean) ManagementFactory.getThreadMXBean();
         long thread = Thread.currentThread().getId();
         long before = bean.getThreadAllocatedBytes(thread);
@@ -37,7 +42,7 @@ public final class RoomTest {
         return behind - before;
     }
 
-    private static long called(ShipsThatMeet sea, int call) {
+    private static long called(Ships sea, int call) {
         switch (call) {
             case 0:
                 return sea.fleet(2);

@@ -8,8 +8,8 @@ final class Sea {
     }
 
     /** A new object with a fleet read from a text; its shelves are empty again. */
-    static ShipsThatMeet of(String text) {
-        ShipsThatMeet sea = new ShipsThatMeet();
+    static Ships of(String text) {
+        Ships sea = new Ships();
         int answer = read(sea, text);
         if (answer < 0) {
             throw new AssertionError("the test's own text is refused: " + text + " " + answer);
@@ -19,23 +19,23 @@ final class Sea {
     }
 
     /** Reads a text by shelf 7. */
-    static int read(ShipsThatMeet sea, String text) {
+    static int read(Ships sea, String text) {
         text(sea, 7, text);
         return sea.fleet(7);
     }
 
-    static void text(ShipsThatMeet sea, int d, String text) {
+    static void text(Ships sea, int d, String text) {
         sea.row(d, BYTES, text.length());
         for (int i = 0; i < text.length(); i++) {
             sea.put(d, i, text.charAt(i));
         }
     }
 
-    static void bytes(ShipsThatMeet sea, int d, int... values) {
+    static void bytes(Ships sea, int d, int... values) {
         row(sea, d, BYTES, values);
     }
 
-    static void row(ShipsThatMeet sea, int d, int sort, int... values) {
+    static void row(Ships sea, int d, int sort, int... values) {
         sea.row(d, sort, values.length);
         for (int i = 0; i < values.length; i++) {
             sea.put(d, i, values[i]);
@@ -43,7 +43,7 @@ final class Sea {
     }
 
     /** What element answers; -77 for IllegalArgumentException, -78 for IllegalStateException. */
-    static long element(ShipsThatMeet sea, int d, int i) {
+    static long element(Ships sea, int d, int i) {
         try {
             return sea.element(d, i);
         } catch (IllegalArgumentException refused) {

@@ -17,7 +17,7 @@ public final class ShelvesTest {
     }
 
     private static void keep() {
-        ShipsThatMeet sea = new ShipsThatMeet();
+        Ships sea = new Ships();
         CHECK.due("a captain", sea.keep(7, 1, 7, 9), 0);
         CHECK.due("he is there", sea.pay(7), 19);
         CHECK.due("kind 8", sea.keep(7, 1, 8, 0), -1);
@@ -40,7 +40,7 @@ public final class ShelvesTest {
     }
 
     private static void row() {
-        ShipsThatMeet sea = new ShipsThatMeet();
+        Ships sea = new Ships();
         for (int sort = 0; sort < 3; sort++) {
             CHECK.due("100 of sort " + sort, sea.row(sort, sort, 100), 0);
             CHECK.due("0 of sort " + sort, sea.row(sort + 3, sort, 0), 0);
@@ -73,7 +73,7 @@ public final class ShelvesTest {
     }
 
     private static void put() {
-        ShipsThatMeet sea = new ShipsThatMeet();
+        Ships sea = new Ships();
         int[] values = {0, 1, -1, 127, 128, 255, 256, -128, -129, 32767, 32768, 65535, 65536, -32769, MAX, MIN};
         for (int value : values) {
             for (int sort = 0; sort < 3; sort++) {
@@ -96,7 +96,7 @@ public final class ShelvesTest {
     }
 
     private static void element() {
-        ShipsThatMeet sea = new ShipsThatMeet();
+        Ships sea = new Ships();
         CHECK.due("shelf -1", Sea.element(sea, -1, 0), -77);
         CHECK.due("shelf 8", Sea.element(sea, 8, -1), -77);
         CHECK.due("nothing", Sea.element(sea, 0, 0), -78);
@@ -111,7 +111,7 @@ public final class ShelvesTest {
     }
 
     private static void copy() {
-        ShipsThatMeet sea = new ShipsThatMeet();
+        Ships sea = new Ships();
         Sea.row(sea, 0, Sea.SHORTS, 1, 2, 3, 4);
         Sea.row(sea, 1, Sea.SHORTS, 9, 8);
         CHECK.due("two", sea.copy(0, 1, 1, 0, 2), 2);
@@ -136,7 +136,7 @@ public final class ShelvesTest {
         refusalsOfCopy(sea);
     }
 
-    private static void refusalsOfCopy(ShipsThatMeet sea) {
+    private static void refusalsOfCopy(Ships sea) {
         CHECK.due("shelf 8", sea.copy(8, 0, 2, 0, 1), -1);
         CHECK.due("shelf -1", sea.copy(0, 0, -1, 0, 1), -1);
         sea.row(2, 0, 4);
@@ -153,7 +153,7 @@ public final class ShelvesTest {
     }
 
     private static void copyWithinOneRow() {
-        ShipsThatMeet sea = new ShipsThatMeet();
+        Ships sea = new Ships();
         Sea.row(sea, 0, Sea.INTS, 1, 2, 3, 4, 5);
         CHECK.due("ahead", sea.copy(0, 0, 0, 1, 4), 4);
         int[] ahead = {1, 1, 2, 3, 4};
@@ -171,7 +171,7 @@ public final class ShelvesTest {
         for (int figure = 0; figure < 10; figure++) {
             int[] due = {6, 6 + figure, 5, 10, 6 * (figure + 1), 6 * (figure + 1) + 3, 6 - figure, 10 + figure};
             for (int kind = 0; kind < 8; kind++) {
-                ShipsThatMeet sea = new ShipsThatMeet();
+                Ships sea = new Ships();
                 sea.keep(4, 1, kind, figure);
                 CHECK.due("pay of kind " + kind + ", figure " + figure, sea.pay(4), due[kind]);
             }
@@ -183,7 +183,7 @@ public final class ShelvesTest {
         for (int figure = 0; figure < 10; figure++) {
             int[] due = {figure, figure, figure, figure, figure, 100 + figure, -15, 210 + figure};
             for (int kind = 0; kind < 8; kind++) {
-                ShipsThatMeet sea = new ShipsThatMeet();
+                Ships sea = new Ships();
                 sea.keep(4, 1, kind, figure);
                 CHECK.due("toss of kind " + kind + ", figure " + figure, sea.toss(4), figure == 0 ? -15 : due[kind]);
                 CHECK.due("he stays", sea.toss(4), figure == 0 ? -15 : due[kind]);
@@ -193,7 +193,7 @@ public final class ShelvesTest {
     }
 
     private static void refusalsOfOneCaptain(boolean pay) {
-        ShipsThatMeet sea = new ShipsThatMeet();
+        Ships sea = new Ships();
         sea.row(1, 0, 0);
         int[] shelves = {-1, 8, MIN, 0, 1};
         int[] due = {-1, -1, -1, -11, -12};

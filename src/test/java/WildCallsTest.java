@@ -16,11 +16,13 @@ public final class WildCallsTest {
 
     public static void main(String[] args) {
         List<Method> calls = new ArrayList<>();
-        for (Method method : ShipsThatMeet.class.getDeclaredMethods()) {
-            if (Modifier.isPublic(method.getModifiers())) {
+        for (Method method : Ships.class.getDeclaredMethods()) {
+            boolean isOfTheFace = !Modifier.isPrivate(method.getModifiers()) && !method.getName().equals("left");
+            if (isOfTheFace) {
                 calls.add(method);
             }
         }
+        CHECK.due("calls of the face", calls.size(), 32);
         // the machine tells them in no fixed order
         calls.sort(Comparator.comparing(Method::getName));
         for (int seed = 0; seed < 400; seed++) {
@@ -30,14 +32,14 @@ public final class WildCallsTest {
     }
 
     private static void run(List<Method> calls, Random random) {
-        ShipsThatMeet sea = new ShipsThatMeet();
+        Ships sea = new Ships();
         if (random.nextInt(4) != 0) {
             Sea.read(sea, "s12;s34;s51;" + Sea.repeated("m001;m112;", random.nextInt(6)) + "m233;");
         }
         for (int d = 0; d < 4; d++) {
             sea.row(d, random.nextInt(2) * random.nextInt(3), random.nextInt(30));
         }
-        for (int i = 0; i < 480; i++) {
+        for (int i = sea.left(); i > 0; i--) {
             Method call = calls.get(random.nextInt(calls.size()));
             Object[] arguments = new Object[call.getParameterCount()];
             for (int a = 0; a < arguments.length; a++) {
@@ -47,7 +49,7 @@ public final class WildCallsTest {
         }
     }
 
-    private static boolean answers(ShipsThatMeet sea, Method call, Object[] arguments) {
+    private static boolean answers(Ships sea, Method call, Object[] arguments) {
         try {
             call.invoke(sea, arguments);
             return true;
