@@ -53,6 +53,24 @@ final class Sea {
         }
     }
 
+    /** All that ship, man, sailed and count tell of the first so many ships and men. */
+    static String picture(Ships sea, int ships, int men) {
+        StringBuilder all = new StringBuilder();
+        for (int what = 0; what < 5; what++) {
+            all.append(sea.count(what)).append(' ');
+            for (int ship = 0; ship < ships; ship++) {
+                all.append(sea.ship(ship, what)).append(' ');
+            }
+        }
+        for (int man = 0; man < men; man++) {
+            for (int what = 0; what < 4; what++) {
+                all.append(sea.man(man, what)).append(' ');
+            }
+            all.append(sea.sailed(man)).append(' ');
+        }
+        return all.toString();
+    }
+
     static String repeated(String part, int times) {
         StringBuilder all = new StringBuilder();
         for (int i = 0; i < times; i++) {
