@@ -137,7 +137,8 @@ public final class ImageEdgesTest {
         String sentence = "0 SHIPS, 1 MEN, 2 MEETINGS, 3 SHIPS without MEN, 4 the most MEN aboard one SHIP; -1 for others.";
         edges.of(26, sentence, "none of all", is -> counts(is, new Ships(), 0, 0, 0, 0, 0));
         edges.of(26, sentence, "ships without men", is -> counts(is, Sea.of(Sea.repeated("s00;", 5)), 5, 0, 0, 5, 0));
-        edges.of(26, sentence, "all men aboard the last ship", is -> {
+        edges.of(26, sentence, "all men aboard the first ship, the last ship", is -> {
+            counts(is, Sea.of("s00;s00;" + Sea.repeated("m000;", 12)), 2, 12, 0, 1, 12);
             counts(is, Sea.of("s00;s00;" + Sea.repeated("m100;", 12)), 2, 12, 0, 1, 12);
         });
         edges.of(26, sentence, "as many aboard each", is -> counts(is, Sea.of("s00;s00;m000;m100;x01;"), 2, 2, 1, 0, 1));

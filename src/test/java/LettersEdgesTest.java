@@ -181,6 +181,15 @@ public final class LettersEdgesTest {
             is.due("where(2)", again.where(2, 0), 0);
             is.due("together(0, 2)", again.together(0, 2, 0), 0);
         });
+        edges.terms(20, sentence, "from how things are now", is -> {
+            Ships sea = fleetAndRow(FOUR, 0, 1);
+            is.due("together(1, 0)", sea.together(1, 0, 0), 0);
+            sea.meet(0, 1);
+            // ship 0 has 1 and 2, ship 1 has 0 and 3; 1 and 0 go
+            is.due("together(1, 2)", sea.together(1, 2, 0), 0);
+            Sea.bytes(sea, 0, 1, 2, 0, 1);
+            is.due("together(1, 2), behind one more", sea.together(1, 2, 0), 1);
+        });
         edges.terms(20, sentence, "-3: they are not now", is -> {
             Ships sea = fleetAndRow(FOUR, 0, 1);
             is.due("together(0, 2)", sea.together(0, 2, 0), -3);

@@ -139,6 +139,29 @@ public final class MeetingsEdgesTest {
             sea.judge(2);
             is.holds("all is as it was", before.equals(Sea.picture(sea, 3, 5)));
         });
+        edges.terms(7, "In mind (nothing stays)", "each answers the same behind any other", is -> {
+            for (int first = 0; first < IN_MIND; first++) {
+                Ships sea = mindful();
+                long due = asked(sea, first);
+                for (int other = 0; other < IN_MIND; other++) {
+                    asked(sea, other);
+                    is.due("call " + first + " behind call " + other, asked(sea, first), due);
+                }
+            }
+        });
+        edges.terms(7, "In mind (nothing stays)", "each looks at how things are now", is -> {
+            for (int call = 0; call < IN_MIND; call++) {
+                Ships sea = mindful();
+                sea.image();
+                asked(sea, call);
+                sea.meet(0, 1);
+                long behind = asked(sea, call);
+                sea.restore();
+                asked(sea, call);
+                sea.meet(0, 1);
+                is.due("call " + call + " behind the same meeting", asked(sea, call), behind);
+            }
+        });
         edges.terms(7, "WHERE a man is behind a ROW of MEETINGS.", "one behind the other, from how things are now", is -> {
             Ships sea = fleetAndRow(FOUR, 0, 1, 1, 2, 2, 0);
             // 0 and 2 change, then 0 and 3, then 0 and 1
@@ -171,6 +194,51 @@ public final class MeetingsEdgesTest {
         });
     }
 
+    /** How many calls look at things in mind. */
+    private static final int IN_MIND = 14;
+
+    /** A fleet in which each of them has an answer: a row of meetings, of crews, of gifts. */
+    private static Ships mindful() {
+        Ships sea = Sea.of("s20;s30;s00;m001;m010;m102;m123;m200;");
+        Sea.bytes(sea, 0, 0, 1, 1, 2, 2, 0);
+        Sea.bytes(sea, 1, 0, 1, 0, 1, 2);
+        Sea.bytes(sea, 2, 0, 1, 1, 2, 0, 1, 2, 3);
+        return sea;
+    }
+
+    private static long asked(Ships sea, int call) {
+        switch (call) {
+            case 0:
+                return sea.where(0, 0);
+            case 1:
+                return sea.can(0, 0);
+            case 2:
+                return sea.soonest(0, 2, 0);
+            case 3:
+                return sea.likely(0, 2, 0, 1);
+            case 4:
+                return sea.fewest(0, 2, 0);
+            case 5:
+                return sea.fewest(0, 2, 1);
+            case 6:
+                return sea.crews(1);
+            case 7:
+                return sea.mixesMost();
+            case 8:
+                return sea.letter(4, 0);
+            case 9:
+                return sea.law(0, 0, 7, 3);
+            case 10:
+                return sea.together(2, 3, 0);
+            case 11:
+                return sea.moved(1, 0);
+            case 12:
+                return sea.seeded(0, 9, 99);
+            default:
+                return sea.judge(2);
+        }
+    }
+
     private static Ships fleetAndRow(String text, int... row) {
         Ships sea = Sea.of(text);
         Sea.bytes(sea, 0, row);
@@ -198,6 +266,10 @@ public final class MeetingsEdgesTest {
             is.due("can(0): he may be alone aboard 1, then he goes", sea.can(0, 0), 5);
             Sea.bytes(sea, 0, 0, 1, 0, 1);
             is.due("can(2), behind two", sea.can(2, 0), 3);
+            Sea.bytes(sea, 0, 1, 2);
+            is.due("can(2), with ship 2", sea.can(2, 0), 4);
+            Sea.bytes(sea, 0, 2, 1);
+            is.due("can(2), with ship 2, the other way", sea.can(2, 0), 4);
         });
         edges.terms(8, sentence, "one of two can", is -> {
             Ships sea = fleetAndRow("s00;s00;m000;m000;m100;m100;", 0, 1);
@@ -283,6 +355,18 @@ public final class MeetingsEdgesTest {
             part(is, sea, 2, 1, 1, 3);
             part(is, sea, 2, 0, 2, 3);
             part(is, sea, 4, 0, 1, 2);
+        });
+        edges.terms(10, LIKELY, "where he is already, while others meet", is -> {
+            // half and half aboard 0 and 2; then 0 meets 1
+            Ships sea = fleetAndRow(FOUR, 0, 2, 0, 1);
+            part(is, sea, 0, 0, 1, 4);
+            part(is, sea, 0, 1, 1, 4);
+            part(is, sea, 0, 2, 1, 2);
+            // or 2 meets 1
+            Sea.bytes(sea, 0, 0, 2, 2, 1);
+            part(is, sea, 0, 0, 1, 2);
+            part(is, sea, 0, 1, 1, 6);
+            part(is, sea, 0, 2, 1, 3);
         });
         edges.terms(10, LIKELY, "in least terms", is -> {
             // goes and stays 1/3 * 1/2, stays and goes 2/3 * 1/3: 7/18; the rest is 11/18
