@@ -33,6 +33,8 @@ public final class EdgesToldTest {
         ImageEdgesTest.list(edges);
         ShelvesEdgesTest.list(edges);
         RefusalsEdgesTest.list(edges);
+        FullEdgesTest.list(edges);
+        TraceEdgesTest.list(edges);
         compare(edges, sections(Files.readString(document)));
         CHECK.end();
     }

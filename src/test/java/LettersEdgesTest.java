@@ -181,6 +181,12 @@ public final class LettersEdgesTest {
             is.due("where(2)", again.where(2, 0), 0);
             is.due("together(0, 2)", again.together(0, 2, 0), 0);
         });
+        edges.terms(20, sentence, "by the row of that shelf", is -> {
+            Ships sea = fleetAndRow(FOUR);
+            Sea.bytes(sea, 7, 1, 2, 1, 2);
+            is.due("together(0, 1, 0)", sea.together(0, 1, 0), 0);
+            is.due("together(0, 1, 7)", sea.together(0, 1, 7), 2);
+        });
         edges.terms(20, sentence, "from how things are now", is -> {
             Ships sea = fleetAndRow(FOUR, 0, 1);
             is.due("together(1, 0)", sea.together(1, 0, 0), 0);
@@ -352,6 +358,14 @@ public final class LettersEdgesTest {
         edges.terms(23, JUDGED, "one meeting behind the other", is -> {
             judged(is, FOUR, -4, 0, 1, 0, 2, 0, 1, 1, 0);
             judged(is, FOUR, 6, 0, 1, 0, 2, 0, 1, 0, 2);
+        });
+        edges.terms(23, JUDGED, "by other ships each time", is -> {
+            // 0 and 2 change, then 1 and 4, then 0 and 1
+            judged(is, FOUR, -4, 0, 1, 0, 2, 0, 2, 1, 4, 1, 2, 0, 1);
+            judged(is, FOUR, 10, 0, 1, 0, 2, 0, 2, 1, 4, 1, 2, 3, 1);
+            judged(is, FOUR, 11, 0, 1, 0, 2, 0, 2, 1, 4, 1, 2, 0, 4);
+            // the other way round: 2 and 0 change, then 4 and 1, then 1 and 0
+            judged(is, FOUR, -4, 1, 0, 2, 0, 2, 0, 4, 1, 2, 1, 1, 0);
         });
         edges.terms(23, JUDGED, "a full row", is -> {
             Ships sea = Sea.of(TWO);

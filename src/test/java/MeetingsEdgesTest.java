@@ -139,29 +139,6 @@ public final class MeetingsEdgesTest {
             sea.judge(2);
             is.holds("all is as it was", before.equals(Sea.picture(sea, 3, 5)));
         });
-        edges.terms(7, "In mind (nothing stays)", "each answers the same behind any other", is -> {
-            for (int first = 0; first < IN_MIND; first++) {
-                Ships sea = mindful();
-                long due = asked(sea, first);
-                for (int other = 0; other < IN_MIND; other++) {
-                    asked(sea, other);
-                    is.due("call " + first + " behind call " + other, asked(sea, first), due);
-                }
-            }
-        });
-        edges.terms(7, "In mind (nothing stays)", "each looks at how things are now", is -> {
-            for (int call = 0; call < IN_MIND; call++) {
-                Ships sea = mindful();
-                sea.image();
-                asked(sea, call);
-                sea.meet(0, 1);
-                long behind = asked(sea, call);
-                sea.restore();
-                asked(sea, call);
-                sea.meet(0, 1);
-                is.due("call " + call + " behind the same meeting", asked(sea, call), behind);
-            }
-        });
         edges.terms(7, "WHERE a man is behind a ROW of MEETINGS.", "one behind the other, from how things are now", is -> {
             Ships sea = fleetAndRow(FOUR, 0, 1, 1, 2, 2, 0);
             // 0 and 2 change, then 0 and 3, then 0 and 1
@@ -192,51 +169,6 @@ public final class MeetingsEdgesTest {
                 is.due("where(" + man + ", 1), nothing", sea.where(man, 1), -1);
             }
         });
-    }
-
-    /** How many calls look at things in mind. */
-    private static final int IN_MIND = 14;
-
-    /** A fleet in which each of them has an answer: a row of meetings, of crews, of gifts. */
-    private static Ships mindful() {
-        Ships sea = Sea.of("s20;s30;s00;m001;m010;m102;m123;m200;");
-        Sea.bytes(sea, 0, 0, 1, 1, 2, 2, 0);
-        Sea.bytes(sea, 1, 0, 1, 0, 1, 2);
-        Sea.bytes(sea, 2, 0, 1, 1, 2, 0, 1, 2, 3);
-        return sea;
-    }
-
-    private static long asked(Ships sea, int call) {
-        switch (call) {
-            case 0:
-                return sea.where(0, 0);
-            case 1:
-                return sea.can(0, 0);
-            case 2:
-                return sea.soonest(0, 2, 0);
-            case 3:
-                return sea.likely(0, 2, 0, 1);
-            case 4:
-                return sea.fewest(0, 2, 0);
-            case 5:
-                return sea.fewest(0, 2, 1);
-            case 6:
-                return sea.crews(1);
-            case 7:
-                return sea.mixesMost();
-            case 8:
-                return sea.letter(4, 0);
-            case 9:
-                return sea.law(0, 0, 7, 3);
-            case 10:
-                return sea.together(2, 3, 0);
-            case 11:
-                return sea.moved(1, 0);
-            case 12:
-                return sea.seeded(0, 9, 99);
-            default:
-                return sea.judge(2);
-        }
     }
 
     private static Ships fleetAndRow(String text, int... row) {
@@ -318,6 +250,12 @@ public final class MeetingsEdgesTest {
             Ships sea = fleetAndRow(FOUR, 1, 2, 0, 3);
             is.due("soonest(0, 2)", sea.soonest(0, 2, 0), -4);
             is.due("soonest(0, 3)", sea.soonest(0, 3, 0), -4);
+        });
+        edges.of(9, "SOONEST; -4.", "by the row of that shelf", is -> {
+            Ships sea = fleetAndRow(FOUR);
+            Sea.bytes(sea, 7, 0, 1);
+            is.due("soonest(0, 1, 0)", sea.soonest(0, 1, 0), -4);
+            is.due("soonest(0, 1, 7)", sea.soonest(0, 1, 7), 1);
         });
         edges.of(9, "-1, and of the ROW.", "-1: no such man, no such ship, whatever the row", is -> {
             Ships sea = fleetAndRow(FOUR, 0, 0);
@@ -470,6 +408,14 @@ public final class MeetingsEdgesTest {
             // he who is kept never goes while there is another
             is.due("man 1 of one who keeps him", sea.fewest(1, 1, 0), -4);
         });
+        edges.terms(11, FEWEST, "ships without men have no part in it, whatever their numbers", is -> {
+            // 12 gives man 0 first, then man 1; ships 0 and 3 have nobody to give
+            Ships sea = Sea.of("s00;s00;s00;s00;m100;m100;m200;");
+            is.due("fewest(1, 2, 0)", sea.fewest(1, 2, 0), 2);
+            is.due("fewest(1, 2, 1)", sea.fewest(1, 2, 1), 12);
+            is.due("fewest(1, 0, 0)", sea.fewest(1, 0, 0), -4);
+            is.due("fewest(1, 3, 1)", sea.fewest(1, 3, 1), -4);
+        });
         edges.terms(11, FEWEST, "-4: nobody comes to a ship without men, or from where none is given", is -> {
             Ships sea = Sea.of(FOUR);
             is.due("fewest(0, 3, 0)", sea.fewest(0, 3, 0), -4);
@@ -554,6 +500,12 @@ public final class MeetingsEdgesTest {
         });
         edges.terms(12, sentence, "by more ships than two", is -> {
             is.due("0 and 2 change, 0 and 3 change", fleetAndRow(FOUR, 2, 0, 0, 1, 2, 2).crews(0), 2);
+        });
+        edges.terms(12, sentence, "ships without men have no part in it, whatever their numbers", is -> {
+            Ships sea = fleetAndRow("s30;s30;s30;s30;m100;m100;m200;m200;", 2, 2, 1, 1);
+            is.due("all four change", sea.crews(0), 2);
+            Sea.bytes(sea, 0, 0, 1, 2, 2);
+            is.due("one aboard ship 0", sea.crews(0), -4);
         });
         edges.of(12, "CREWS by the ROW in SHELF d; -4.", "none", is -> {
             is.due("a crew of another size", fleetAndRow(FOUR, 0, 0, 0, 2, 2, 2).crews(0), -4);

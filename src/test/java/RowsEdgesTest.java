@@ -92,7 +92,25 @@ public final class RowsEdgesTest {
             Sea.bytes(sea, 0, 256 + 2, 512);
             is.due("ships 2 and 0", reader.of(sea, 0), ofIdle);
         });
+        ofThatShelf(edges, promise, ofNone, ofTwelve, reader);
         refusals(edges, promise, own, reader);
+    }
+
+    private static void ofThatShelf(Edges edges, int promise, long ofNone, long ofTwelve, Reader reader) {
+        edges.terms(promise, "SHELVES 0 .. 7 each hold nothing (at first), a CAPTAIN, a ROW.", "the row of that shelf, whatever others hold", is -> {
+            for (int d = 1; d < 8; d++) {
+                Ships sea = Sea.of(THREE);
+                meetings(sea, 24);
+                sea.row(d, Sea.BYTES, 0);
+                is.due("none on shelf " + d + ", twelve on shelf 0", reader.of(sea, d), ofNone);
+                sea.row(d, Sea.BYTES, 24);
+                sea.copy(0, 0, d, 0, 24);
+                sea.row(0, Sea.BYTES, 0);
+                is.due("twelve on shelf " + d + ", none on shelf 0", reader.of(sea, d), ofTwelve);
+                sea.keep(0, 0, 0, 0);
+                is.due("twelve on shelf " + d + ", nothing on shelf 0", reader.of(sea, d), ofTwelve);
+            }
+        });
     }
 
     private static void refusals(Edges edges, int promise, String own, Reader reader) {

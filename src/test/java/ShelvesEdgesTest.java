@@ -474,6 +474,15 @@ public final class ShelvesEdgesTest {
             is.due("figure 1, pay 11", tossed(7, 1), 211);
             is.due("figure 9, pay 19", tossed(7, 9), 219);
         });
+        edges.of(33, sentence, "of each shelf by itself", is -> {
+            Ships sea = new Ships();
+            for (int d = 0; d < 8; d++) {
+                sea.keep(d, 1, 1, d + 1);
+            }
+            for (int d = 0; d < 8; d++) {
+                is.due("toss(" + d + ")", sea.toss(d), d + 1);
+            }
+        });
         edges.of(33, sentence, "he stays, and is tossed again", is -> {
             Ships sea = new Ships();
             sea.keep(0, 1, 5, 3);

@@ -23,6 +23,7 @@ public final class TermsEdgesTest {
         best(edges);
         told(edges);
         keep(edges);
+        lastMan(edges);
         pay(edges);
     }
 
@@ -232,6 +233,19 @@ public final class TermsEdgesTest {
         gives(edges, sentence, "there is no such man", "s79;m000;m000;", 0);
         // behind them ship 0 has 2 since 1, 0 since 2, 1 since 3
         gives(edges, sentence, "the oldest of the others", "s72;s00;m000;m000;m100;m000;x01;x01;x01;", 0);
+    }
+
+    private static void lastMan(Edges edges) {
+        String sentence = "MEN 0 .. 11 as they come, each aboard a SHIP";
+        String others = Sea.repeated("m100;", 11);
+        for (int kind = 0; kind < 8; kind++) {
+            gives(edges, sentence, "man 11 alone, kind " + kind, "s" + kind + "1;s00;" + others + "m010;", 11);
+        }
+        String ten = Sea.repeated("m010;", 10);
+        gives(edges, sentence, "man 11 by lot", "s19;s00;m110;m110;" + ten, 11);
+        gives(edges, sentence, "man 11, the only one who is not wanted", "s41;m010;" + ten + "m000;", 11);
+        gives(edges, sentence, "man 11, the best though the others are more", "s51;m010;" + ten + "m001;", 11);
+        gives(edges, sentence, "man 11 of all who are new", "s20;m010;" + ten + "m000;", 11);
     }
 
     private static void pay(Edges edges) {
