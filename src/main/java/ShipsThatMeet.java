@@ -634,7 +634,7 @@ public final class ShipsThatMeet {
         int second = digit(text, place + 2);
         switch (text.at(place)) {
             case 's':
-                return fleet.takesShip(first, second);
+                return isKindAndFigure(first, second) && fleet.takesShip(captainOf(first, second));
             case 'm':
                 return fleet.takesMan(first, second, digit(text, place + 3));
             case 'x':
@@ -1057,11 +1057,11 @@ public final class ShipsThatMeet {
             return Integer.bitCount(crews[ship]) == 1;
         }
 
-        boolean takesShip(int kind, int figure) {
-            if (!isKindAndFigure(kind, figure) || ships >= MOST_SHIPS) {
+        boolean takesShip(Captain captain) {
+            if (ships >= MOST_SHIPS) {
                 return false;
             }
-            captains[ships] = captainOf(kind, figure);
+            captains[ships] = captain;
             crews[ships] = 0;
             ships++;
             return true;

@@ -17,11 +17,6 @@ public final class EdgesToldTest {
     private static final int TERMS = 0;
 
     public static void main(String[] args) throws IOException {
-        Path document = Path.of("../shared/DOC.md");
-        if (!Files.exists(document)) {
-            System.out.println("EdgesToldTest: there is no " + document + " to hold the sentences against");
-            return;
-        }
         Edges edges = new Edges("EdgesToldTest");
         TermsEdgesTest.list(edges);
         TextsEdgesTest.list(edges);
@@ -35,7 +30,7 @@ public final class EdgesToldTest {
         RefusalsEdgesTest.list(edges);
         FullEdgesTest.list(edges);
         TraceEdgesTest.list(edges);
-        compare(edges, sections(Files.readString(document)));
+        compare(edges, sections(Files.readString(Path.of("../shared/DOC.md"))));
         CHECK.end();
     }
 

@@ -203,9 +203,6 @@ public final class MeetingsTest {
         part(sea, 0, 0, 6561 + 256, 2 * 6561);
         Sea.bytes(sea, 0, java.util.Arrays.copyOf(meetings, 14));
         part(sea, 0, 0, 2187 + 128, 2 * 2187);
-        meetings[23] = 0;
-        Sea.bytes(sea, 0, meetings);
-        CHECK.due("the whole row must be as told", sea.likely(0, 0, 0, 0), -13 - FAR);
         Ships nobody = Sea.of("s00;s00;s00;m000;m000;m100;");
         int[] vain = new int[18];
         for (int i = 0; i < 16; i++) {
